@@ -1,3 +1,5 @@
+import java.util.List;
+
 /** Promises 1 to 6: a new object, the tape, the language with its errors, and count. */
 public final class LanguageTest {
     private static final String ROAD = "stretch a miles 2 soft 1; gate g at 0 toll 4; "
@@ -11,7 +13,9 @@ public final class LanguageTest {
         feedAndTrim();
         teachTakesThePlace();
         teachWithAnErrorLeavesAll();
+        teachAgainAndAgain();
         tokens();
+        namesLikeKeywords();
         wrongTokens();
         grammar();
         depth();
@@ -108,6 +112,49 @@ public final class LanguageTest {
         Checks.due("errorAt still", 16, x::errorAt);
         Checks.due("a list without error", 0, () -> Checks.teach(x, ""));
         Checks.due("errorAt then", -1, x::errorAt);
+    }
+
+    /** What earlier lists told, the wrong ones too, takes no room from a later one. */
+    private static void teachAgainAndAgain() {
+        String full = ROAD + "mend a with 1 when 1 = 2;".repeat(18) + "farm g for 9 when day = 0 + 1 * 0 or farmed g;";
+        TollTrustees x = new TollTrustees();
+        for (int i = 0; i < 12; i++) {
+            Checks.due("a full list", 0, () -> Checks.teach(x, full));
+            Checks.due("the same with too many orders", 4, () -> Checks.teach(x, full + "mend a with 2; mend a with 3;"));
+            Checks.due("the same without an end", 1, () -> Checks.teach(x, full + "mend a with 2"));
+        }
+        x.pass(1);
+        Checks.due("its last order holds", 9, () -> x.gate(0, 4));
+        Checks.due("a short list", 0, () -> Checks.teach(x, "stretch a miles 1 soft 9; "
+                + "traffic t weight 60 wheels 1 from 0 to 0 every 1; mend a with 3 + 4 when day = 1 + 1 or day = 1;"));
+        int[] due = {1, 200, 1, 1, 0, 1, 1, 100};
+        for (int what = 0; what < due.length; what++) {
+            int asked = what;
+            Checks.due("a short list, count(" + what + ")", due[what], () -> x.count(asked));
+        }
+        x.pass(1);
+        Checks.due("its order holds", 7, () -> x.count(11));
+        Checks.dueOutside("it has no gates", x, () -> x.gate(0, 0));
+    }
+
+    /** Each keyword with another letter in front, at its end or in its middle, and cut or lengthened, is a name. */
+    private static void namesLikeKeywords() {
+        List<String> keywords = List.of(("stretch miles soft gate at toll traffic weight wheels from to every free farm "
+                + "for mend with when day coins worst condition taken gain passed farmed broken not and or min max")
+                .split(" "));
+        for (String word : keywords) {
+            int middle = word.length() / 2;
+            String[] names = {"z" + word.substring(1), word.substring(0, word.length() - 1) + "z",
+                word.substring(0, middle) + "z" + word.substring(middle + 1), word + "s", word + "0", "z" + word,
+                word.substring(0, word.length() - 1), word.substring(1)};
+            for (String name : names) {
+                if (!keywords.contains(name)) {
+                    Checks.dueError("stretch " + name + " miles 2 soft 1; mend " + name + " with worst " + name + ";",
+                            "0");
+                }
+            }
+            Checks.dueErrorAtMark(1, "stretch ^" + word + " miles 2 soft 1;");
+        }
     }
 
     private static void tokens() {
