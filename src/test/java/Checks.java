@@ -3,14 +3,34 @@ import java.nio.charset.StandardCharsets;
 /** Counts the answers that are not due, and feeds lists to trusts. */
 final class Checks {
     private static final int BYTES_OF_A_FEED = 20;
+    private static final int MOST_SECONDS = 300;
     private static int checked = 0;
     private static int wrong = 0;
+
+    static {
+        endInTime();
+    }
 
     interface Call {
         Object answer();
     }
 
     private Checks() {
+    }
+
+    /** A call that does not end is a wrong answer too: the test then ends by itself. */
+    private static void endInTime() {
+        Thread watch = new Thread(() -> {
+            try {
+                Thread.sleep(MOST_SECONDS * 1000L);
+                System.out.println("no end behind " + MOST_SECONDS + " seconds");
+                Runtime.getRuntime().halt(1);
+            } catch (InterruptedException e) {
+                Thread.currentThread().interrupt();
+            }
+        });
+        watch.setDaemon(true);
+        watch.start();
     }
 
     /** Checks that a call answers what is due; an exception that is due is given as its class. */
