@@ -215,7 +215,7 @@ final class CallBounds {
     private static void teachInThePlaceOfAFullList() {
         Document.promises(4, "Reads the tape as a list, in the place of all that was told before; all begins anew");
         TollTrustees x = Checks.taught(FULL);
-        for (int i = 0; i < 3; i++) {
+        for (int i = 0; i < 12; i++) {
             x.pass(3);
             due("turned back", 3, () -> Math.min(3, x.traffic(7, 6)));
             due("a stretch too many", 4, () -> Checks.teach(x, FULL + "stretch z miles 1 soft 1;"));
@@ -223,15 +223,15 @@ final class CallBounds {
             due("the full list again", 0, () -> Checks.teach(x, FULL));
         }
         TollTrustees twin = new TollTrustees();
-        twin.pass(9);
+        twin.pass(36);
         Checks.teach(twin, FULL);
         Checks.due("is like a new one of that day", twin.digest(), x::digest);
         due("days", twin.pass(3), () -> x.pass(3));
         Checks.due("and goes on like it", twin.digest(), x::digest);
-        String list = WORN + "farm g for 3 when day > 20 or farmed g; mend a with 2; mend a with 1 when worst a < 80;";
+        String list = WORN + "farm g for 3 when day > 50 or farmed g; mend a with 2; mend a with 1 when worst a < 80;";
         due("a short list", 0, () -> Checks.teach(x, list));
         TollTrustees another = new TollTrustees();
-        another.pass(12);
+        another.pass(39);
         Checks.teach(another, list);
         Checks.due("is like a new one of that day", another.digest(), x::digest);
         due("days", another.pass(40), () -> x.pass(40));
@@ -691,6 +691,14 @@ final class CallBounds {
             int what = whats[i];
             due("foresee(1, " + what + ")", one[i], () -> x.foresee(1, what));
             due("foresee(2, " + what + ")", two[i], () -> x.foresee(2, what));
+        }
+        TollTrustees passed = behind("stretch a miles 1 soft 0; gate g at 0 toll 0; "
+                + "traffic t weight 1 wheels 6 from 0 to 0 every 1; farm g for 9 when passed t = 2 or passed t = 4;", 2);
+        int[] coins = {209, 209, 218, 218};
+        for (int i = 0; i < coins.length; i++) {
+            int days = i + 1;
+            due("what passed so far counts, foresee(" + days + ", 1)", coins[i], () -> passed.foresee(days, 1));
+            due("foreseen again", coins[i], () -> passed.foresee(days, 1));
         }
         due("broken miles of all", 45, () -> Checks.taught(FULL.replaceAll("mend[^;]*;", "")).foresee(1, 8));
     }
