@@ -254,6 +254,9 @@ final class LanguageBounds {
             Checks.dueError("stretch a miles 1" + sign + " soft 1;",
                     isBlank ? "0" : isDigit(sign) ? "5@16" : "1@17");
         }
+        Checks.dueError("stretch a miles 1 soft 1; stretch\nb miles 1 soft 1; mend\na with worst  b + worst \nb;", "0");
+        Checks.dueErrorAtMark(2, STRETCH + "stretch\n^a miles 1 soft 1;");
+        Checks.dueErrorAtMark(2, "stretch\na miles 1 soft 1; stretch  ^a miles 1 soft 1;");
         Checks.dueError(" \n \n" + STRETCH.replace(" ", " \n\n ").replace(";", "\n;") + "\n \n", "0");
     }
 
@@ -375,6 +378,10 @@ final class LanguageBounds {
         Checks.dueErrorAtMark(1, ROAD + "free t at g^;");
         Checks.dueErrorAtMark(1, ROAD + "farm g for 1^;");
         Checks.dueErrorAtMark(1, ROAD + "mend s with^;");
+        for (String token : ("stretch miles day coins worst farmed not and or when min ( ) [ ] ; , name 5").split(" ")) {
+            Checks.dueErrorAtMark(1, ROAD + "mend s with 1 when 1 ^" + token + " 2;");
+            Checks.dueErrorAtMark(1, ROAD + "mend s with 1 when [1 ^" + token + " 2];");
+        }
         dueHolds("1 = 1", true);
         dueHolds("1 = 2 or 1 = 3 or 1 = 4 or 1 = 1", true);
         dueHolds("1 = 1 and 2 = 2 and 3 = 3 and 4 = 5", false);
@@ -744,10 +751,18 @@ final class LanguageBounds {
             int mile = i;
             Checks.due("stretch of mile " + i, i < 2 ? 0 : i < 11 ? 1 : 2, () -> x.mile(mile, 0));
         }
+        int[] gateMiles = {1, 10};
+        int[][] traffics = {{7, 8, 10, 0, 9}, {1, 2, 11, 11, 3}};
+        for (int i = 0; i < 2; i++) {
+            int number = i;
+            Checks.due("mile of gate " + i, gateMiles[i], () -> x.gate(number, 0));
+            for (int what = 0; what < 5; what++) {
+                int asked = what;
+                Checks.due("traffic(" + i + ", " + what + ")", traffics[i][what], () -> x.traffic(number, asked));
+            }
+        }
         Checks.due("toll of gate 0", 5, () -> x.gate(0, 1));
         Checks.due("toll of gate 1", 6, () -> x.gate(1, 1));
-        Checks.due("weight of traffic 0", 7, () -> x.traffic(0, 0));
-        Checks.due("weight of traffic 1", 1, () -> x.traffic(1, 0));
         Checks.due("orders", 2, () -> x.count(6));
     }
 }
